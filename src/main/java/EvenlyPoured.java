@@ -240,7 +240,7 @@ public final class EvenlyPoured {
         if (!isCup(cup) || what < 0 || what > 2) {
             return BAD;
         }
-        pourRow(row);
+        pourRow();
         switch (what) {
             case 0:
                 return pouring.full[cup];
@@ -255,7 +255,7 @@ public final class EvenlyPoured {
         if (what < 0 || what > 4) {
             return BAD;
         }
-        pourRow(row);
+        pourRow();
         switch (what) {
             case 0:
                 return pouring.uneven();
@@ -274,7 +274,7 @@ public final class EvenlyPoured {
         if (!isCup(cup) || !isPart(part)) {
             return NO;
         }
-        pourRow(row);
+        pourRow();
         int full = pouring.full[cup];
         return full == 0 ? NO : inLowestTerms(pouring.strength[cup], full, part);
     }
@@ -345,10 +345,16 @@ public final class EvenlyPoured {
         return pouring.uneven();
     }
 
-    private void pourRow(int[] poured) {
+    private void pourRow() {
+        pourAllBut(NONE);
+    }
+
+    private void pourAllBut(int cup) {
         pouring.begin(texts[rule], cups, dribs);
         for (int drib = 0; drib < dribs; drib++) {
-            pouring.drop(drib, poured[drib], 0);
+            if (row[drib] != cup) {
+                pouring.drop(drib, row[drib], 0);
+            }
         }
     }
 
@@ -405,7 +411,6 @@ public final class EvenlyPoured {
         return part == 0 || part == 1;
     }
 
-    /** Below is above 0 in all calls. */
     private static long inLowestTerms(long above, long below, int part) {
         long divisor = above;
         long rest = below;
@@ -564,15 +569,6 @@ public final class EvenlyPoured {
             return NOTHING;
         }
         return sheets[sheet].size == cups ? 0 : BAD;
-    }
-
-    private void pourAllBut(int cup) {
-        pouring.begin(texts[rule], cups, dribs);
-        for (int drib = 0; drib < dribs; drib++) {
-            if (row[drib] != cup) {
-                pouring.drop(drib, row[drib], 0);
-            }
-        }
     }
 
     private boolean tastesAsTold(int[] strengths, int butFor) {
@@ -775,8 +771,10 @@ public final class EvenlyPoured {
             return false;
         }
 
-        /** There is one cup at least, so that a drib's number can be divided by how many there are. */
         int goes(int drib, int cups, int[] strength) {
+            if (cups < 1 || number < 0) {
+                return 0;
+            }
             switch (kind) {
                 case POURER:
                     return (drib + number) % cups;
