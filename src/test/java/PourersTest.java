@@ -51,6 +51,8 @@ public final class PourersTest {
         // As a ZIGZAG 0, 1, 1: 1 | 5, then 1 + 4 | 5, like: 0.
         lays(2, 6, 5, 3, "011001");
         lays(2, 6, 5, 9, "011001");
+        // As a ZIGZAG 0, 1: 1 | 2, then 0, where a ZIGZAG would go on into 1.
+        lays(2, 6, 5, 2, "010101");
         lays(1, 3, 5, 1, "000");
     }
 

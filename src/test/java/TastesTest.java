@@ -204,7 +204,11 @@ public final class TastesTest {
         Due.due("stronger than 999", tea.drawn(1, 20), 999 + more);
         Due.rule(tea, "strong 0;drips 999;liked 0;");
         Due.row(tea, "01");
+        // What drib 1 has, it loses: drib 0 is told alone.
         Due.due("all that it has drips", tea.drawn(1, 20), more);
+        Due.rule(tea, "strong 999;drips 2000;liked 0;");
+        int moreThen = ((1103515245 + 12345) * 1103515245 + 12345 >>> 10) % 21;
+        Due.due("999 drips at most", tea.drawn(1, 20), 999 + more - moreThen);
     }
 
     private static void chance() {

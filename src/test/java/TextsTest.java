@@ -6,6 +6,7 @@ public final class TextsTest {
         faultsOfOrder();
         faultsOfTokens();
         faultsOfDepth();
+        fullTapes();
         values();
         names();
         bounds();
@@ -27,6 +28,19 @@ public final class TextsTest {
         Due.due("text: byte 0 begins none", tea.text(), -100);
         Due.due("count(4) behind a fault", tea.count(4), 0);
         Due.due("feed behind a fault", tea.feed(32), 1);
+        Due.due("text of a blank", tea.text(), -101);
+        Due.due("a text behind faults", Due.read(tea, "strong 1;drips 2;liked 3;"), 1);
+    }
+
+    /** THE TAPE up to its last byte in one token, and in as many as can be. */
+    private static void fullTapes() {
+        fault("1".repeat(160), 0);
+        fault("z".repeat(160), 0);
+        fault(";".repeat(160), 0);
+        fault("strong " + "-1".repeat(76) + "1", 160);
+        fault("strong 1;drips 2;liked 3;" + " ".repeat(135 - 5) + "12345", 155);
+        fine("strong 1;drips 2;liked 3;" + "\n".repeat(135));
+        fine("strong " + "1+".repeat(67) + "1;drips 2;liked 3" + ";");
     }
 
     private static void textsAndForce() {
@@ -136,6 +150,8 @@ public final class TextsTest {
         fault("strong dri;drips 2;liked 3;", 7);
         fault("strong dribss;drips 2;liked 3;", 7);
         fault("strong cupcup;drips 2;liked 3;", 7);
+        fault("strong cupz;drips 2;liked 3;", 7);
+        fault("strong acup;drips 2;liked 3;", 7);
         fault("strong xor 1;drips 2;liked 3;", 7);
         fault("strong drib or drip;drips 2;liked 3;", 15);
         fault("strongdrib;drips 2;liked 3;", 0);
@@ -198,6 +214,8 @@ public final class TextsTest {
         worth("1+1=2", 1);
         worth("5+(1<2)*3", 8);
         worth("7 and 8", 1);
+        worth("1 and 1", 1);
+        worth("1 or 1", 1);
         worth("7 and 0", 0);
         worth("0 or 9", 1);
         worth("0 or 0", 0);
